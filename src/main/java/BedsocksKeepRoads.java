@@ -822,7 +822,7 @@ public final class BedsocksKeepRoads {
             night = other.night;
             law = other.law;
             count = other.count;
-            for (int p = 0; p < SLEEPERS; p++) {
+            for (int p = 0; p < count && p < SLEEPERS; p++) {
                 all[p].becomeAs(other.all[p]);
             }
         }

@@ -58,6 +58,7 @@ public final class PromisesTest {
         copy();
         sleepersBy();
         taken();
+        nightsInThought();
         CHECK.end();
     }
 
@@ -194,12 +195,22 @@ public final class PromisesTest {
             "goes - @not 2 ;", "goes 2 * @not 2;", "goes 1 @not 1", "goes 1 or @or 1", "goes 1 and @", "goes not @",
             "goes not @;", "goes 1 * @* 2", "goes @+ 1", "goes 1 + @+ 1", "goes @* 1", "goes 1 - @;", "goes -@", "goes @< 2",
             "goes 4@x ;", "goes wet@4 ;", "goes 4 @wet;", "goes wet @wool;", "goes wet @(1);", "goes 1 or1;@", "goes 1 or1@",
+            "goes 1 or @;", "goes 1 and @;", "goes 1 * @;", "goes 1 + @;", "goes 1 < @;", "goes ( 1 or @) ;", "goes (1 and @);", "goes ( 1 *@);",
+            "goes not @x 1;", "goes - @x 1;", "goes (@x 1);", "goes @wetz;", "goes @weta;", "goes @zwet;", "goes @awet;",
+            "goes 4 ; minds 3 ; wears 1 ; @wet", "goes 4 ; minds 3 ; wears 1 ; @or",
             "goes (1 = 1) = (2 < 3) @= 1;", "goes 1 = (2 = (3 = @));",
         };
         for (String one : marked) {
             fault(one);
         }
         due("count(3)", x.count(3), 1);
+        fault("goes 7 + 8 ; minds 9 @x");
+        due("text()", Check.text(x, "goes 3;minds 4;wears 5;"), 1);
+        x.force(1);
+        x.sleeper(0, 0);
+        for (int part = 0; part < 3; part++) {
+            due("nothing of the faulty one stays", x.asks(part, 0), 3 + part);
+        }
     }
 
     private static void nesting() {
@@ -428,6 +439,11 @@ public final class PromisesTest {
         due("knit 5", x.knit(0, 9), -2);
         Check.row(x, 0, 2, 0, -1);
         due("knit -1", x.knit(0, 0), -2);
+        Check.row(x, 0, 2, 5, 0);
+        due("knit 5 first", x.knit(0, 0), -2);
+        Check.row(x, 0, 2, 4);
+        due("knit one", x.knit(0, 1), 1);
+        due("told(1, 20)", x.told(1, 20), 4);
         due("told(0, 10)", x.told(0, 10), 1);
         Check.row(x, 0, 1, new int[16]);
         x.cell(0, 15, 4);
@@ -505,6 +521,7 @@ public final class PromisesTest {
             {27, 0, 2, 35, 1, 1}, {27, 1, 2, 26, 2, 1}, {27, 2, 2, 19, 3, 1}, {27, 3, 2, 28, 0, 1},
             {27, 0, 3, 27, 0, 0}, {27, 0, 4, 28, 0, 1},
             {7, 0, 0, 7, 0, 0}, {8, 2, 0, 8, 2, 0}, {0, 3, 0, 0, 3, 0}, {56, 1, 0, 56, 1, 0},
+            {54, 0, 0, 55, 0, 1}, {54, 1, 0, 62, 1, 1}, {9, 2, 0, 8, 2, 1}, {9, 3, 0, 1, 3, 1},
             {63, 0, 2, 63, 1, 0}, {63, 1, 1, 63, 0, 0}, {0, 2, 2, 0, 3, 0}, {0, 3, 1, 0, 2, 0}, {7, 0, 4, 7, 0, 0},
         };
         for (int[] row : rows) {
@@ -725,6 +742,8 @@ public final class PromisesTest {
         due("unlike sizes", x.alike(0, 1, 1), -1);
         Check.sock(x, 1, 0, 2);
         due("not at all", x.alike(0, 1, 1), -1);
+        Check.sock(x, 1, 2, 1);
+        due("not the first stitch", x.alike(0, 1, 1), -1);
         due("alike(0, 1, 2)", x.alike(0, 1, 2), -7);
         due("alike(0, 1, -1)", x.alike(0, 1, -1), -7);
         due("alike(0, 2, 2)", x.alike(0, 2, 2), -5);
@@ -754,6 +773,12 @@ public final class PromisesTest {
         due("water", x.anew(0, 3, 1, 0), 4);
         due("water", x.anew(0, 3, 1, 1), 0);
         due("nothing changed", x.told(0, 20), 0);
+        x.flood(1, 0);
+        Check.sock(x, 0, 3);
+        due("on is the better one", x.anew(0, 7, 1, 0), 0);
+        due("on is the better one", x.anew(0, 7, 1, 1), 4);
+        due("twenty nights", x.anew(0, 7, 20, 0), 0);
+        due("twenty nights", x.anew(0, 7, 20, 1), 0);
         due("anew(0, 64, 1, 0)", x.anew(0, 64, 1, 0), -7);
         due("anew(0, -1, 1, 0)", x.anew(0, -1, 1, 0), -7);
         due("anew(0, 0, 21, 0)", x.anew(0, 0, 21, 0), -7);
@@ -787,6 +812,16 @@ public final class PromisesTest {
         x.put(2, 0, 40);
         due("none is more", x.drain(3, 0), -1);
         due("as so", x.drain(3, 1), 21);
+        x.put(0, 0, 1);
+        x.put(0, 1, 2);
+        x.flood(0, 1);
+        due("cell 0", x.drain(1, 0), 0);
+        x.flood(0, 0);
+        x.put(0, 0, 55);
+        x.put(0, 1, 1);
+        x.flood(63, 1);
+        due("cell 63", x.drain(1, 0), 63);
+        x.flood(63, 0);
         due("drain(21, 0)", x.drain(21, 0), -2);
         due("drain(-1, 0)", x.drain(-1, 0), -2);
         due("drain(0, 2)", x.drain(0, 2), -2);
@@ -1324,11 +1359,63 @@ public final class PromisesTest {
         due("full", x.sleepersBy(0, 2, 0, 1), 0);
         due("count(0)", x.count(0), 6);
         promise(38);
+        Check.row(x, 0, 2, new int[14]);
+        due("six", x.sleepersBy(0, 2, 0, 6), 6);
+        promise(38);
         Check.row(x, 0, 0, 5, 120, 5, 200);
         due("bytes", x.sleepersBy(0, 0, 0, 2), 1);
         Check.row(x, 0, 1, 5, 120, 5, 65536 + 201);
         due("shorts", x.sleepersBy(0, 1, 0, 2), 2);
         due("told(2, 0)", x.told(2, 0), 20);
+    }
+
+    /**
+     * A girl's wool is worn off in each third night alone, so that one who goes by it shows which night
+     * it is told that it is; from night 1 on her wool is 3 3 1 1 1 0 ..
+     */
+    private static void nightsInThought() {
+        CHECK.at("promises 15 .. 30: NIGHT in thought");
+        x = new BedsocksKeepRoads();
+        Check.text(x, "goes (wool < 3) * (1 + (wool < 1)); minds 0; wears 2;");
+        x.force(1);
+        x.sleeper(30, 0);
+        x.put(0, 4, 3);
+        x.dusk(997);
+        // more is 0: a girl goes 1 a night; wool 3 1 1 1 0 behind nights 997 998 999 1000 1001 1002
+        x.sleeper(31, 80);
+        x.put(1, 4, 3);
+        // more is 1: 2 * goes % 2 and 1
+        x.sleeper(39, 160);
+        x.put(2, 4, 3);
+        // more is 9: 1 till wool is below 3, then 2 * 1 and 1; wool 0 goes 1 (a girl's own)
+        int[] cells = {17, 18, 19, 22, 23, 23};
+        for (int n = 1; n <= 6; n++) {
+            due("run(" + n + ", 12)", x.run(n, 12), cells[n - 1]);
+        }
+        Check.row(x, 0, 0, cells);
+        due("judge", x.judge(0, 2), -1);
+        due("film", x.film(1, 2, 6), 6);
+        due("judge by film", x.judge(1, 2), -1);
+        x.copy(0, 0, 1, 0, 6);
+        due("judge by what is told", x.judge(1, 2), -1);
+        due("comes", x.comes(2, 22), 4);
+        due("comes", x.comes(2, 23), 5);
+        due("track(4, 2)", x.track(4, 2), 127L << 16);
+        due("track(3, 2)", x.track(3, 2), 15L << 16);
+        due("kinds", x.kinds(0, 2, 0), 8);
+        due("whose", x.whose(0), 4);
+        due("turn", x.turn(2, 5, 1), 0);
+        x.flood(23, 1);
+        due("wet", x.turn(2, 5, 0), 1);
+        due("anew", x.anew(2, 22, 4, 1), 0);
+        due("none nearer", x.anew(2, 22, 4, 0), -1);
+        x.sleeper(0, 220);
+        x.put(3, 4, 0);
+        due("meet", x.meet(2, 3), 4);
+        due("the girl's night is now's, else", x.told(2, 9), 0);
+        x.dusk(0);
+        due("her night", x.told(2, 9), 2);
+        due("another night, other cells", x.judge(0, 2), 1);
     }
 
     private static void taken() {
