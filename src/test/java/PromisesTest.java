@@ -197,6 +197,7 @@ public final class PromisesTest {
             "goes 4@x ;", "goes wet@4 ;", "goes 4 @wet;", "goes wet @wool;", "goes wet @(1);", "goes 1 or1;@", "goes 1 or1@",
             "goes 1 or @;", "goes 1 and @;", "goes 1 * @;", "goes 1 + @;", "goes 1 < @;", "goes ( 1 or @) ;", "goes (1 and @);", "goes ( 1 *@);",
             "goes not @x 1;", "goes - @x 1;", "goes (@x 1);", "goes @wetz;", "goes @weta;", "goes @zwet;", "goes @awet;",
+            "goes @lore;", "goes @now;", "goes @met;", "goes wet @ond 1;", "@toes 4;", "goes 4;@finds 4;",
             "goes 4 ; minds 3 ; wears 1 ; @wet", "goes 4 ; minds 3 ; wears 1 ; @or",
             "goes (1 = 1) = (2 < 3) @= 1;", "goes 1 = (2 = (3 = @));",
         };
@@ -1212,7 +1213,9 @@ public final class PromisesTest {
             due("a new one has what one comes with", x.sleeper(11, 20), 2);
             state("new", 2, 2, 0, 0, 0, 99);
             Check.sock(x, 2, 4, 4, 4);
+            x.put(2, 2, 2);
             x.put(2, 3, 9);
+            x.put(2, 4, 9);
             x.put(0, 0, 33);
             x.darn(0, 1, 4);
         }
@@ -1220,7 +1223,7 @@ public final class PromisesTest {
         x.sleeper(22, 30);
         due("one stitch, as one comes", x.told(2, 10), 1);
         due("it is no bridge", x.told(2, 20), 0);
-        due("dry feet", x.told(2, 3), 0);
+        state("as one comes", 2, 3, 0, 0, 0, 99);
         x.put(0, 0, 9);
         due("image() anew", x.image(), 3);
         x.put(0, 0, 8);
@@ -1371,7 +1374,7 @@ public final class PromisesTest {
 
     /**
      * A girl's wool is worn off in each third night alone, so that one who goes by it shows which night
-     * it is told that it is; from night 1 on her wool is 3 3 1 1 1 0 ..
+     * it is told that it is: from night 997 on hers is 3 3 3 1 1 1 0.
      */
     private static void nightsInThought() {
         CHECK.at("promises 15 .. 30: NIGHT in thought");
@@ -1381,13 +1384,11 @@ public final class PromisesTest {
         x.sleeper(30, 0);
         x.put(0, 4, 3);
         x.dusk(997);
-        // more is 0: a girl goes 1 a night; wool 3 1 1 1 0 behind nights 997 998 999 1000 1001 1002
         x.sleeper(31, 80);
         x.put(1, 4, 3);
-        // more is 1: 2 * goes % 2 and 1
+        // of more 9, one goes 1 till wool is below 3, then 2 * 1 and 1
         x.sleeper(39, 160);
         x.put(2, 4, 3);
-        // more is 9: 1 till wool is below 3, then 2 * 1 and 1; wool 0 goes 1 (a girl's own)
         int[] cells = {17, 18, 19, 22, 23, 23};
         for (int n = 1; n <= 6; n++) {
             due("run(" + n + ", 12)", x.run(n, 12), cells[n - 1]);
