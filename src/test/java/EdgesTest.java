@@ -553,6 +553,19 @@ public final class EdgesTest {
         due("41", x.turn(0, 41, 0), -7);
         due("-1", x.turn(0, -1, 0), -7);
         due("one looks as one looked", x.told(0, 1), 1);
+        noFifthWay();
+    }
+
+    /** By each of the four ways one is wet; a fifth one, going as 3 does but turning otherwise, would not be. */
+    private static void noFifthWay() {
+        promise(22);
+        x.sleeper(0, 360);
+        Check.sock(x, 0, 0, 1, 3);
+        for (int c : new int[] {37, 44, 35, 27}) {
+            x.flood(c, 1);
+        }
+        due("the first of four", x.turn(0, 1, 0), 0);
+        due("wet by each", x.turn(0, 1, 1), 1);
     }
 
     private static void shareFirstAndLast() {

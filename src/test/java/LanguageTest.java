@@ -40,6 +40,7 @@ public final class LanguageTest {
         face();
         classes();
         methodsAreShort(source);
+        callsMakeNothing(code);
         CHECK.end();
     }
 
@@ -135,5 +136,36 @@ public final class LanguageTest {
             }
             CHECK.due("sixty lines at most from line " + (i + 1), end - i <= 60 ? 1 : 0, 1);
         }
+    }
+
+    /** What an object needs is made with it, so that no number of calls fills the room that all runs share. */
+    private static void callsMakeNothing(String code) {
+        CHECK.at("rule 12: what a run makes");
+        String type = "(?!public |private |static )[\\w\\[\\]]+";
+        Pattern method = Pattern.compile("( {4}| {8})(public |private |static )*" + type + " \\w+\\([^;]*\\) \\{");
+        String[] lines = code.split("\n");
+        int methods = 0;
+        for (int i = 0; i < lines.length; i++) {
+            Matcher head = method.matcher(lines[i]);
+            if (!head.matches()) {
+                continue;
+            }
+            methods++;
+            for (int j = i; j < lines.length && !lines[j].equals(head.group(1) + "}"); j++) {
+                CHECK.due("something new in [" + lines[j] + "]", count(lines[j], "\\bnew\\b|clone\\(|copyOf|toCharArray|substring"), 0);
+            }
+        }
+        CHECK.due("all methods were looked at", methods, methodsOf(BedsocksKeepRoads.class));
+    }
+
+    private static int methodsOf(Class<?> c) {
+        int methods = 0;
+        for (Method m : c.getDeclaredMethods()) {
+            methods += m.isSynthetic() ? 0 : 1;
+        }
+        for (Class<?> inside : c.getDeclaredClasses()) {
+            methods += methodsOf(inside);
+        }
+        return methods;
     }
 }

@@ -29,6 +29,7 @@ public final class TextsTest {
         opensEnd();
         tapeOf160();
         tapeIsEmptyThen();
+        faultyOnesLeaveNothing();
         textsAreNumbered();
         bindings();
         wrapping();
@@ -450,6 +451,24 @@ public final class TextsTest {
         due("empty", x.count(5), 0);
         due("of nothing", x.text(), -100);
         due("room for 160 again", feedAll(), 160);
+    }
+
+    /** A text ends where it ends, though a longer one with a FAULT was read ahead of it. */
+    private static void faultyOnesLeaveNothing() {
+        term("by a FAULT there is no TEXT");
+        String[] faulty = {"- 3 x", "not 3 x", "- - 3 (", "( - 3 ;", "- 3 ; x"};
+        for (int t = 0; t < 5; t++) {
+            String text = "goes 1 ; minds 2 ; wears " + faulty[t];
+            due("the last token of " + text, Check.text(x, text), -100 - (text.length() - 1));
+            due("a TEXT", Check.text(x, "goes 3 ; minds 4 ; wears 5 ;"), t + 1);
+        }
+        x.sleeper(0, 0);
+        for (int t = 1; t <= 5; t++) {
+            x.force(t);
+            due("goes", x.asks(0, 0), 3);
+            due("minds", x.asks(1, 0), 4);
+            due("wears", x.asks(2, 0), 5);
+        }
     }
 
     private static int feedAll() {
